@@ -33,7 +33,14 @@ final class Check {
         }
     }
 
-    /** The call throws this very exception, and the object is the same as ahead of it. */
+    /** A throw statement of the class itself threw this, not the Java machine or its library. */
+    static boolean thrownByWill(RuntimeException e) {
+        StackTraceElement[] trace = e.getStackTrace();
+        return trace.length > 0 && trace[0].getClassName().equals("CopyHouse")
+                && !(e instanceof ArrayIndexOutOfBoundsException);
+    }
+
+    /** The call throws this very exception by will, and the object is the same as ahead of it. */
     static void refused(CopyHouse x, String call, Class<? extends RuntimeException> want, Call made) {
         long ahead = x.digest();
         String got = "nothing";
@@ -41,6 +48,7 @@ final class Check {
             made.run();
         } catch (RuntimeException e) {
             got = e.getClass().getName();
+            due(call + " throws by a throw statement", thrownByWill(e));
         }
         due(call + " throws, which", got, want.getName());
         due(call + " throws; the digest behind it", x.digest(), ahead);

@@ -129,12 +129,14 @@ final class CopiesTest {
         Check.due("distance(1, 0)", x.distance(1, 0), 4);
         Check.due("manuscript(2, 7)", x.manuscript(2, 7), 0);
         x.emend(1, 0, 0, 3);
-        Check.due("distance(0, 1) then", x.distance(0, 1), 1);
         Check.due("distance(1, 0) then", x.distance(1, 0), 1);
+        Check.due("distance(0, 1) then", x.distance(0, 1), 1);
         Check.due("manuscript(2, 7) then", x.manuscript(2, 7), 3);
         Check.due("manuscript(2, 8) then", x.manuscript(2, 8), 3);
         Check.due("guess(2) then", x.guess(2), 1);
         Check.due("decay() then", x.decay(), 1.0);
+        x.emend(0, 2, 0, 2);
+        Check.due("distance(1, 0) of aaab and bbaa", x.distance(1, 0), 3);
     }
 
     private static void lose() {

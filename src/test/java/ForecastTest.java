@@ -175,6 +175,17 @@ final class ForecastTest {
         Check.badState(x, "advise of a lost one", () -> x.advise(0));
         Check.due("no manuscript is made", x.count(0), 1);
         Check.due("the text stays", Desk.text(x, 0), "aaab");
+        Check.due("a copy that leaves nothing of 120 letters", worstAdvice(), 0);
+    }
+
+    private static int worstAdvice() {
+        CopyHouse full = new CopyHouse();
+        Desk.written(full, Desk.repeated("a", 60));
+        Desk.scribe(full, Desk.DOUBLE, 'a', 'a', 1);
+        int longest = full.copy(0, 0);
+        full.dropHabit(0, 0);
+        Desk.habit(full, 0, Desk.DROP, 'a', 'a', 1);
+        return full.advise(longest);
     }
 
     private static void decay() {

@@ -107,7 +107,7 @@ final class RandomRunsTest {
     }
 
     private void compare(String call, Answer got, Answer want) {
-        String one = told(got);
+        String one = toldByHouse(got);
         String other = told(want);
         if (!one.equals(other)) {
             Check.complain(name + ": " + call + " answered " + one + ", PlainHouse " + other);
@@ -119,6 +119,15 @@ final class RandomRunsTest {
             return answer.get().toString();
         } catch (RuntimeException e) {
             return e.getClass().getName();
+        }
+    }
+
+    /** As 'told', and what the Java machine throws is told as such: nothing else answers so. */
+    private static String toldByHouse(Answer answer) {
+        try {
+            return answer.get().toString();
+        } catch (RuntimeException e) {
+            return Check.thrownByWill(e) ? e.getClass().getName() : "the machine's " + e;
         }
     }
 
