@@ -5,8 +5,23 @@ final class Check {
     }
 
     private static int wrong = 0;
+    private static String subject = "";
+
+    static {
+        // A test that ends in the middle says of what it was one, too.
+        Thread.setDefaultUncaughtExceptionHandler((thread, e) -> {
+            complain("the test could not go on: " + e);
+            e.printStackTrace(System.out);
+            System.exit(1);
+        });
+    }
 
     private Check() {
+    }
+
+    /** Names what the following calls are a test of; "" for nothing of its own. */
+    static void about(String what) {
+        subject = what;
     }
 
     static void due(String call, long got, long want) {
@@ -69,7 +84,7 @@ final class Check {
     static void complain(String text) {
         wrong++;
         if (wrong <= 40) {
-            System.out.println(text);
+            System.out.println(subject.isEmpty() ? text : subject + ": " + text);
         }
     }
 

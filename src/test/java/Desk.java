@@ -1,3 +1,6 @@
+import java.util.ArrayList;
+import java.util.List;
+
 /** What tests do with a CopyHouse again and again, with texts as Strings. */
 final class Desk {
     static final int CHANGE = 0;
@@ -48,7 +51,8 @@ final class Desk {
 
     static String text(CopyHouse x, int manuscript) {
         StringBuilder letters = new StringBuilder();
-        for (int i = 0; i < x.manuscript(manuscript, 0); i++) {
+        int length = x.manuscript(manuscript, 0);
+        for (int i = 0; i < length; i++) {
             letters.append((char) x.letter(manuscript, i));
         }
         return letters.toString();
@@ -56,7 +60,8 @@ final class Desk {
 
     static String voted(CopyHouse x) {
         StringBuilder letters = new StringBuilder();
-        for (int i = 0; i < x.voteLength(); i++) {
+        int length = x.voteLength();
+        for (int i = 0; i < length; i++) {
             letters.append((char) x.vote(i));
         }
         return letters.toString();
@@ -78,33 +83,53 @@ final class Desk {
     }
 
     /** The digest by the document's words, from what the other calls tell. */
-    static long digestByFace(CopyHouse x) {
+    static long digestByFace(Bound.Scene scene) {
         long d = 491;
-        for (int what = 0; what < 8; what++) {
-            d = d * 31 + x.count(what);
-        }
-        for (int scribe = 0; scribe < x.count(2); scribe++) {
-            d = d * 31 + habits(x, scribe);
-            for (int habit = 0; habit < habits(x, scribe); habit++) {
-                for (int what = 0; what < 4; what++) {
-                    d = d * 31 + x.habit(scribe, habit, what);
-                }
-            }
-        }
-        for (int manuscript = 0; manuscript < x.count(0); manuscript++) {
-            for (int what = 0; what < 9; what++) {
-                d = d * 31 + x.manuscript(manuscript, what);
-            }
-            d = d * 31 + x.guess(manuscript);
-            for (int i = 0; i < x.manuscript(manuscript, 0); i++) {
-                d = d * 31 + x.letter(manuscript, i);
-            }
-        }
-        d = d * 31 + x.voteLength();
-        for (int i = 0; i < x.voteLength(); i++) {
-            d = d * 31 + x.vote(i);
+        for (int x : digested(scene)) {
+            d = d * 31 + x;
         }
         return d;
+    }
+
+    /** What a digest is made of; each part from a fresh object, since all of it may be more than 512 calls. */
+    static List<Integer> digested(Bound.Scene scene) {
+        List<Integer> all = new ArrayList<Integer>();
+        CopyHouse x = scene.made();
+        for (int what = 0; what < 8; what++) {
+            all.add(x.count(what));
+        }
+        for (int scribe = 0; scribe < x.count(2); scribe++) {
+            addHabits(all, scene.made(), scribe);
+        }
+        for (int manuscript = 0; manuscript < x.count(0); manuscript++) {
+            addManuscript(all, scene.made(), manuscript);
+        }
+        CopyHouse voter = scene.made();
+        all.add(voter.voteLength());
+        for (char one : voted(voter).toCharArray()) {
+            all.add((int) one);
+        }
+        return all;
+    }
+
+    private static void addHabits(List<Integer> all, CopyHouse x, int scribe) {
+        int many = habits(x, scribe);
+        all.add(many);
+        for (int habit = 0; habit < many; habit++) {
+            for (int what = 0; what < 4; what++) {
+                all.add(x.habit(scribe, habit, what));
+            }
+        }
+    }
+
+    private static void addManuscript(List<Integer> all, CopyHouse x, int manuscript) {
+        for (int what = 0; what < 9; what++) {
+            all.add(x.manuscript(manuscript, what));
+        }
+        all.add(x.guess(manuscript));
+        for (char one : text(x, manuscript).toCharArray()) {
+            all.add((int) one);
+        }
     }
 
     static int habits(CopyHouse x, int scribe) {

@@ -222,22 +222,36 @@ final class ForecastTest {
             one = one * 31 + number;
         }
         Check.due("digest of one manuscript", x.digest(), one);
-        digestGrows(x);
+        digestGrows();
     }
 
-    private static void digestGrows(CopyHouse x) {
-        Check.due("digest", x.digest(), Desk.digestByFace(x));
-        int scribe = Desk.scribe(x, Desk.SWAP, 'b', 'y', 9);
-        Desk.scribe(x);
-        Desk.habit(x, scribe, Desk.DOUBLE, 'b', 'c', 1);
-        Check.due("digest with scribes", x.digest(), Desk.digestByFace(x));
-        x.copy(0, scribe);
-        x.copy(1, scribe);
-        x.copy(1, 1);
-        Check.due("digest with copies", x.digest(), Desk.digestByFace(x));
-        x.lose(1);
-        Desk.tape(x, "xyz");
-        Check.due("digest with a lost one", x.digest(), Desk.digestByFace(x));
-        Check.due("digest again", x.digest(), x.digest());
+    private static void digestGrows() {
+        for (int steps = 0; steps < 4; steps++) {
+            int step = steps;
+            CopyHouse x = grown(step);
+            Check.due("digest, step " + step, x.digest(), Desk.digestByFace(() -> grown(step)));
+            Check.due("digest again", x.digest(), x.digest());
+        }
+    }
+
+    /** A manuscript; with scribes, too; with copies; with a lost one, and a tape. */
+    private static CopyHouse grown(int steps) {
+        CopyHouse x = new CopyHouse();
+        Desk.written(x, "b");
+        if (steps > 0) {
+            int scribe = Desk.scribe(x, Desk.SWAP, 'b', 'y', 9);
+            Desk.scribe(x);
+            Desk.habit(x, scribe, Desk.DOUBLE, 'b', 'c', 1);
+        }
+        if (steps > 1) {
+            x.copy(0, 0);
+            x.copy(1, 0);
+            x.copy(1, 1);
+        }
+        if (steps > 2) {
+            x.lose(1);
+            Desk.tape(x, "xyz");
+        }
+        return x;
     }
 }

@@ -5,6 +5,7 @@ final class HabitsTest {
         drop();
         doubling();
         doublingUpToTheLimit();
+        doublingNearTheLimit();
         skip();
         swap();
         severalHabits();
@@ -56,8 +57,14 @@ final class HabitsTest {
         Check.due("119 letters", Desk.text(x, oneLess), "aab" + Desk.repeated("aabb", 29));
         Check.due("the first one alone is doubled", Desk.text(x, x.copy(oneLess, all)),
                 "aaab" + Desk.repeated("aabb", 29));
+    }
+
+    private static void doublingNearTheLimit() {
+        CopyHouse x = Scenes.nearlyFull(1);
+        int all = Scenes.doubler(x);
         int third = Desk.scribe(x, Desk.DOUBLE, 'b', 'z', 3);
-        Check.due("the third one alone is doubled", Desk.text(x, x.copy(oneLess, third)),
+        int full = x.copy(2, third);
+        Check.due("the third one alone is doubled", Desk.text(x, full),
                 "aab" + "aabbb" + Desk.repeated("aabb", 28));
         int some = Desk.written(x, Desk.repeated("a", 50));
         int hundred = x.copy(some, Desk.scribe(x, Desk.DOUBLE, 'a', 'a', 1));

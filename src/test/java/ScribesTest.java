@@ -6,7 +6,8 @@ final class ScribesTest {
     public static void main(String[] args) {
         addScribe();
         addHabit();
-        refusedHabits();
+        refusedHabits(0);
+        refusedHabits(5);
         dropHabit();
         habit();
         Check.end();
@@ -39,33 +40,31 @@ final class ScribesTest {
         Check.due("habits of the other one", Desk.habits(x, 0), 1);
     }
 
-    private static void refusedHabits() {
+    /** Also with five habits what is named first is thrown. */
+    private static void refusedHabits(int habits) {
         CopyHouse x = new CopyHouse();
         x.addScribe();
+        for (int i = 0; i < habits; i++) {
+            x.addHabit(0, 0, 1, 2, 3);
+        }
         int[] noKinds = {Integer.MIN_VALUE, -1, 5, Integer.MAX_VALUE};
         int[] noNumbers = {Integer.MIN_VALUE, -1, 0, 10, Integer.MAX_VALUE};
-        for (int full = 0; full < 2; full++) {
-            for (int kind : noKinds) {
-                Check.badArgument(x, "addHabit, kind " + kind, () -> x.addHabit(0, kind, 1, 2, 3));
+        for (int kind : noKinds) {
+            Check.badArgument(x, "addHabit, kind " + kind, () -> x.addHabit(0, kind, 1, 2, 3));
+        }
+        for (int kind = 0; kind < 5; kind++) {
+            int one = kind;
+            for (int letter : NO_LETTERS) {
+                Check.badArgument(x, "addHabit, a " + letter, () -> x.addHabit(0, one, letter, 2, 3));
+                Check.badArgument(x, "addHabit, b " + letter, () -> x.addHabit(0, one, 1, letter, 3));
             }
-            for (int kind = 0; kind < 5; kind++) {
-                int one = kind;
-                for (int letter : NO_LETTERS) {
-                    Check.badArgument(x, "addHabit, a " + letter, () -> x.addHabit(0, one, letter, 2, 3));
-                    Check.badArgument(x, "addHabit, b " + letter, () -> x.addHabit(0, one, 1, letter, 3));
-                }
-                for (int n : noNumbers) {
-                    Check.badArgument(x, "addHabit, n " + n, () -> x.addHabit(0, one, 1, 2, n));
-                }
+            for (int n : noNumbers) {
+                Check.badArgument(x, "addHabit, n " + n, () -> x.addHabit(0, one, 1, 2, n));
             }
-            for (int scribe : NO_SCRIBES) {
-                Check.noPlace(x, "addHabit, scribe " + scribe, () -> x.addHabit(scribe, 1, 1, 2, 3));
-                Check.noPlace(x, "addHabit, all wrong", () -> x.addHabit(scribe, 5, 26, 26, 10));
-            }
-            // Once more with five habits: what is named first is thrown still.
-            for (int i = 0; full == 0 && i < 5; i++) {
-                x.addHabit(0, 0, 1, 2, 3);
-            }
+        }
+        for (int scribe : NO_SCRIBES) {
+            Check.noPlace(x, "addHabit, scribe " + scribe, () -> x.addHabit(scribe, 1, 1, 2, 3));
+            Check.noPlace(x, "addHabit, all wrong", () -> x.addHabit(scribe, 5, 26, 26, 10));
         }
     }
 
